@@ -1,0 +1,152 @@
+/** Promises 15 to 18: points read, what dials tell, the worst of a day, the best tilt. */
+public final class ReadingsTest {
+    private static final Check CHECK = new Check("ReadingsTest");
+
+    public static void main(String[] args) {
+        readings();
+        tellings();
+        worsts();
+        bests();
+        wrongInputs();
+        CHECK.end();
+    }
+
+    /** DIAL 0 leans; DIAL 1 is a wall that faces north, DIAL 2 one with the least rod. */
+    private static GnomonYard yard() {
+        GnomonYard yard = new GnomonYard();
+        yard.place(51, 0);
+        yard.place(-20, 300);
+        yard.place(66, 0);
+        yard.place(60, 0);
+        yard.place(0, 0);
+        yard.dial(0, 40, 20, 100);
+        yard.dial(2, 90, 180, 500);
+        yard.dial(4, 0, 0, 1);
+        return yard;
+    }
+
+    private static void read(GnomonYard yard, int dial, int x, int y, int day, int want) {
+        CHECK.due(want, "read(" + dial + ", " + x + ", " + y + ", " + day + ")",
+                () -> yard.read(dial, x, y, day));
+    }
+
+    private static void readings() {
+        GnomonYard yard = yard();
+        for (int standing = 0; standing < 2; standing++) {
+            read(yard, 0, 0, 0, 0, 195);
+            read(yard, 0, 76, -51, 90, 150);
+            read(yard, 0, 9999, 9999, 90, 99);
+            read(yard, 0, -9999, -9999, 90, 287);
+            read(yard, 0, -18, 79, 270, 210);
+            read(yard, 0, 500, 0, 0, 115);
+            read(yard, 0, 43, 20, 180, 172);
+            yard.stand(0, 1, 10, 100);
+        }
+        // Rounded down, the shadows from tick 136 to 180 are all at 0, 0: the first one is told.
+        read(yard, 2, 0, 0, 0, 136);
+        read(yard, 2, -1, 0, 0, 181);
+        read(yard, 2, -2, 3, 0, 226);
+        read(yard, 2, 1, 0, 0, 117);
+        read(yard, 1, 0, 0, 270, GnomonYard.NONE);
+        CHECK.due(0, "a shadow where none was made for", () -> {
+            yard.stand(1, 4, 0, 0);
+            return yard.shadow(1, 270, 180, false);
+        });
+        CHECK.due(GnomonYard.NONE, "told, but not read", () -> yard.tells(1, 270, 180));
+    }
+
+    private static void tells(GnomonYard yard, int dial, int day, int tick, int want) {
+        CHECK.due(want, "tells(" + dial + ", " + day + ", " + tick + ")",
+                () -> yard.tells(dial, day, tick));
+    }
+
+    private static void tellings() {
+        GnomonYard yard = yard();
+        tells(yard, 0, 90, 150, 150);
+        tells(yard, 0, 270, 195, 195);
+        tells(yard, 0, 0, 0, GnomonYard.NONE);
+        yard.stand(0, 1, 10, 100);
+        tells(yard, 0, 0, 100, GnomonYard.NONE);
+        tells(yard, 0, 0, 180, 215);
+        tells(yard, 0, 90, 150, 247);
+        tells(yard, 0, 270, 200, 194);
+        tells(yard, 0, 270, 300, GnomonYard.NONE);
+    }
+
+    private static void worst(GnomonYard yard, int dial, int day, int error, int tick) {
+        String told = "worst(" + dial + ", " + day + ", ";
+        CHECK.due(error, told + "0)", () -> yard.worst(dial, day, 0));
+        CHECK.due(tick, told + "1)", () -> yard.worst(dial, day, 1));
+    }
+
+    private static void worsts() {
+        GnomonYard yard = yard();
+        worst(yard, 0, 0, 0, 104);
+        worst(yard, 0, 90, 0, 99);
+        worst(yard, 0, 270, 0, 122);
+        worst(yard, 0, 135, 0, 100);
+        yard.stand(0, 1, 10, 100);
+        worst(yard, 0, 0, 168, 101);
+        worst(yard, 0, 90, 178, 109);
+        worst(yard, 0, 270, 152, 278);
+        worst(yard, 0, 135, 177, 107);
+        worst(yard, 1, 270, GnomonYard.NONE, GnomonYard.NONE);
+        yard.stand(1, 4, 0, 0);
+        worst(yard, 1, 270, GnomonYard.NONE, GnomonYard.NONE);
+    }
+
+    private static void best(GnomonYard yard, int dial, int place, int facing, int want) {
+        CHECK.due(want, "best(" + dial + ", " + place + ", " + facing + ")",
+                () -> yard.best(dial, place, facing));
+    }
+
+    private static void bests() {
+        GnomonYard yard = yard();
+        best(yard, 0, 0, 20, 0);
+        best(yard, 0, 0, -60, 8);
+        best(yard, 0, 1, 100, 6);
+        best(yard, 0, 2, 0, 1);
+        best(yard, 1, 3, 0, 85);
+        yard.place(40, 0);
+        best(yard, 0, 5, 20, 4);
+        yard.place(-51, 0);
+        // Of 2 tilts and of 4 with the least errors the lowest.
+        best(yard, 0, 6, 180, 47);
+        best(yard, 2, 4, 0, 1);
+        // A wall to the south at the equator is best as it was made.
+        yard.dial(4, 90, 0, 100);
+        best(yard, 3, 4, 0, 90);
+        CHECK.due(0, "best moves no DIAL", () -> yard.stand(0, 0, 40, 20));
+        tells(yard, 0, 90, 150, 150);
+    }
+
+    private static void wrongInputs() {
+        GnomonYard yard = yard();
+        for (int dial : new int[] {-1, 3, 10, Integer.MIN_VALUE}) {
+            CHECK.notThere("read of no DIAL", () -> yard.read(dial, 10000, 0, 0));
+            CHECK.notThere("tells of no DIAL", () -> yard.tells(dial, 360, 0));
+            CHECK.notThere("worst of no DIAL", () -> yard.worst(dial, 360, 0));
+            CHECK.notThere("best of no DIAL", () -> yard.best(dial, 0, 181));
+        }
+        CHECK.notThere("best at no PLACE", () -> yard.best(0, 5, 0));
+        CHECK.notThere("best at PLACE -1, facing 181", () -> yard.best(0, -1, 181));
+        CHECK.outOfRange("best with a facing of 181", () -> yard.best(0, 0, 181));
+        CHECK.outOfRange("best with a facing of -181", () -> yard.best(0, 0, -181));
+        CHECK.due(yard.best(0, 0, 180), "best with a facing of -180", () -> yard.best(0, 0, -180));
+        int[][] reads = {{-10000, 0, 0}, {10000, 0, 0}, {0, -10000, 0}, {0, 10000, 0}, {0, 0, -1},
+            {0, 0, 360}};
+        for (int[] w : reads) {
+            CHECK.outOfRange("read(0, " + w[0] + ", " + w[1] + ", " + w[2] + ")",
+                    () -> yard.read(0, w[0], w[1], w[2]));
+        }
+        int[][] pairs = {{-1, 0}, {360, 0}, {0, -1}};
+        for (int[] w : pairs) {
+            CHECK.outOfRange("tells(0, " + w[0] + ", " + w[1] + ")",
+                    () -> yard.tells(0, w[0], w[1]));
+            CHECK.outOfRange("worst(0, " + w[0] + ", " + w[1] + ")",
+                    () -> yard.worst(0, w[0], w[1]));
+        }
+        CHECK.outOfRange("tells(0, 0, 360)", () -> yard.tells(0, 0, 360));
+        CHECK.outOfRange("worst(0, 0, 2)", () -> yard.worst(0, 0, 2));
+    }
+}
