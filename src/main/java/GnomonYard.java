@@ -180,25 +180,15 @@ public final class GnomonYard {
     /** Tells of a SHADOW, of a DIAL as it stands: its y or its x. */
     public int shadow(int dial, int day, int tick, boolean isY)
             throws IndexOutOfBoundsException, IllegalArgumentException, IllegalStateException {
-        Dial asked = dialAt(dial);
-        refuseUnless(isDay(day) && isTick(tick));
-        castShadow(shadow, asked.standing, day, tick);
-        if (!shadow.isThere) {
-            throw new IllegalStateException("there is no SHADOW");
-        }
+        castStanding(dial, day, tick);
         return isY ? shadow.y : shadow.x;
     }
 
     /** Returns how wide the edge of a SHADOW is, of a DIAL as it stands. */
     public float blur(int dial, int day, int tick)
             throws IndexOutOfBoundsException, IllegalArgumentException, IllegalStateException {
-        Dial asked = dialAt(dial);
-        refuseUnless(isDay(day) && isTick(tick));
-        castShadow(shadow, asked.standing, day, tick);
-        if (!shadow.isThere) {
-            throw new IllegalStateException("there is no SHADOW");
-        }
-        int together = Math.abs(shadow.x) + Math.abs(shadow.y) + asked.standing.rod;
+        Plate plate = castStanding(dial, day, tick);
+        int together = Math.abs(shadow.x) + Math.abs(shadow.y) + plate.rod;
         return (float) together / 107f;
     }
 
@@ -439,11 +429,15 @@ public final class GnomonYard {
 
     // Light, hours, clocks.
 
-    private int riseOf(int latitude, int day) {
+    private boolean isBright(int latitude, int day, int tick) {
         sun.startDay(latitude, day);
+        sun.moveTo(tick);
+        return sun.shines();
+    }
+
+    private int riseOf(int latitude, int day) {
         for (int tick = 0; tick < TICKS; tick++) {
-            sun.moveTo(tick);
-            if (sun.shines()) {
+            if (isBright(latitude, day, tick)) {
                 return tick;
             }
         }
@@ -451,10 +445,8 @@ public final class GnomonYard {
     }
 
     private int setOf(int latitude, int day) {
-        sun.startDay(latitude, day);
         for (int tick = TICKS - 1; tick >= 0; tick--) {
-            sun.moveTo(tick);
-            if (sun.shines()) {
+            if (isBright(latitude, day, tick)) {
                 return tick + 1;
             }
         }
@@ -463,20 +455,12 @@ public final class GnomonYard {
 
     private int brightTicksOf(int latitude, int day) {
         int count = 0;
-        sun.startDay(latitude, day);
         for (int tick = 0; tick < TICKS; tick++) {
-            sun.moveTo(tick);
-            if (sun.shines()) {
+            if (isBright(latitude, day, tick)) {
                 count++;
             }
         }
         return count;
-    }
-
-    private boolean isBright(int latitude, int day, int tick) {
-        sun.startDay(latitude, day);
-        sun.moveTo(tick);
-        return sun.shines();
     }
 
     private int unequalHour(int latitude, int day, int tick) {
@@ -511,6 +495,18 @@ public final class GnomonYard {
         sun.startDay(plate.latitude, day);
         sun.moveTo(tick);
         cast.fall(plate, sun);
+    }
+
+    /** Leaves the SHADOW of a DIAL as it stands in shadow; returns the plate that it falls on. */
+    private Plate castStanding(int dial, int day, int tick)
+            throws IndexOutOfBoundsException, IllegalArgumentException, IllegalStateException {
+        Plate plate = dialAt(dial).standing;
+        refuseUnless(isDay(day) && isTick(tick));
+        castShadow(shadow, plate, day, tick);
+        if (!shadow.isThere) {
+            throw new IllegalStateException("there is no SHADOW");
+        }
+        return plate;
     }
 
     /** Leaves the ends of the LINE in beginning and end; returns whether it is there. */
@@ -618,7 +614,7 @@ public final class GnomonYard {
         private int x;
         private int y;
 
-        // All products stay below 2.5e18 with the greatest rod, so none of them wraps around.
+        // With the greatest rod the products stay below 2.5e18: none of them wraps around.
         void fall(Plate plate, Sun sun) {
             isThere = false;
             if (!sun.shines()) {

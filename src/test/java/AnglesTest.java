@@ -59,6 +59,9 @@ public final class AnglesTest {
         CHECK.due(-23, "day(270, 0)", () -> YARD.day(270, 0));
         CHECK.due(16, "day(220, 1)", () -> YARD.day(220, 1));
         CHECK.due(-5, "day(140, 1)", () -> YARD.day(140, 1));
+        CHECK.due(1, "day(34, 1)", () -> YARD.day(34, 1));
+        CHECK.due(-7, "day(124, 1)", () -> YARD.day(124, 1));
+        CHECK.due(16, "day(209, 1)", () -> YARD.day(209, 1));
         CHECK.due(-12, "day(300, 1)", () -> YARD.day(300, 1));
         CHECK.due(-9, "day(359, 1)", () -> YARD.day(359, 1));
         int[][] wrong = {{-1, 0}, {360, 0}, {360, 1}, {0, -1}, {0, 2}, {Integer.MIN_VALUE, 0}};

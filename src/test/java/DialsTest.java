@@ -161,6 +161,16 @@ public final class DialsTest {
                 () -> yard.line(0, hour, 0));
     }
 
+    /** In the southern winter this plate has no shadow at noon, in the summer it has. */
+    private static void lineWithoutBeginning() {
+        GnomonYard yard = new GnomonYard();
+        yard.place(-51, 0);
+        yard.dial(0, 40, 0, 100);
+        shadowOf(yard, 0, 270, 180, 0, -247);
+        noShadow(yard, 0, 90, 180);
+        lineOf(yard, 12);
+    }
+
     private static void lines() {
         GnomonYard yard = new GnomonYard();
         yard.place(51, 0);
@@ -176,6 +186,7 @@ public final class DialsTest {
             lineOf(yard, 23);
             yard.stand(0, 1, 0, 0);
         }
+        lineWithoutBeginning();
         yard.cut(0, 12, 50);
         lineOf(yard, 12, 16, -25, 41, 65);
         CHECK.notThere("line of no DIAL", () -> yard.line(1, 0, 0));

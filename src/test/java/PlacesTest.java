@@ -102,7 +102,9 @@ public final class PlacesTest {
         hoursOf(yard, 2, 90, 342, 11, 324, 359, 646);
         hoursOf(yard, 2, 90, 343, -1, -1, 0, 650);
         hoursOf(yard, 3, 133, 200, 7, 130, 269, 801);
-        CHECK.notThere("hour(4, ..)", () -> yard.hour(4, 0, 0, 0));
+        yard.place(-66, 0);
+        hoursOf(yard, 4, 0, 255, 10);
+        CHECK.notThere("hour(5, ..)", () -> yard.hour(5, 0, 0, 0));
         CHECK.notThere("hour(-1, ..) out of range", () -> yard.hour(-1, 360, 360, 4));
         int[][] wrong = {{-1, 0, 0}, {360, 0, 0}, {0, -1, 0}, {0, 360, 0}, {0, 0, -1}, {0, 0, 4}};
         for (int[] w : wrong) {

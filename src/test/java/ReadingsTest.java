@@ -113,6 +113,19 @@ public final class ReadingsTest {
         // Of 2 tilts and of 4 with the least errors the lowest.
         best(yard, 0, 6, 180, 47);
         best(yard, 2, 4, 0, 1);
+        yard.stand(0, 2, 90, -90);
+        best(yard, 0, 5, 20, 4);
+        yard.stand(0, 0, 40, 20);
+        // What silence counts decides here: 179 would make the first one 90, 181 the second one 65.
+        GnomonYard silent = new GnomonYard();
+        silent.place(-60, 0);
+        silent.place(-33, 0);
+        silent.dial(0, 59, -1, 50);
+        best(silent, 0, 1, -162, 86);
+        silent.place(41, 0);
+        silent.place(-22, 0);
+        silent.dial(2, 77, 122, 1);
+        best(silent, 1, 3, -176, 75);
         // A wall to the south at the equator is best as it was made.
         yard.dial(4, 90, 0, 100);
         best(yard, 3, 4, 0, 90);
