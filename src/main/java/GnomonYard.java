@@ -431,13 +431,13 @@ public final class GnomonYard {
 
     private boolean isBright(int latitude, int day, int tick) {
         sun.startDay(latitude, day);
-        sun.moveTo(tick);
-        return sun.shines();
+        return sun.shinesIn(tick);
     }
 
     private int riseOf(int latitude, int day) {
+        sun.startDay(latitude, day);
         for (int tick = 0; tick < TICKS; tick++) {
-            if (isBright(latitude, day, tick)) {
+            if (sun.shinesIn(tick)) {
                 return tick;
             }
         }
@@ -445,8 +445,9 @@ public final class GnomonYard {
     }
 
     private int setOf(int latitude, int day) {
+        sun.startDay(latitude, day);
         for (int tick = TICKS - 1; tick >= 0; tick--) {
-            if (isBright(latitude, day, tick)) {
+            if (sun.shinesIn(tick)) {
                 return tick + 1;
             }
         }
@@ -454,9 +455,10 @@ public final class GnomonYard {
     }
 
     private int brightTicksOf(int latitude, int day) {
+        sun.startDay(latitude, day);
         int count = 0;
         for (int tick = 0; tick < TICKS; tick++) {
-            if (isBright(latitude, day, tick)) {
+            if (sun.shinesIn(tick)) {
                 count++;
             }
         }
@@ -575,6 +577,11 @@ public final class GnomonYard {
 
         boolean shines() {
             return up > 0;
+        }
+
+        boolean shinesIn(int tick) {
+            moveTo(tick);
+            return shines();
         }
     }
 

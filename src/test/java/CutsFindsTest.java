@@ -1,10 +1,12 @@
-/** Promises 19 to 24: cuts, lies, costs, finds, and the latitudes that fit. */
+/**
+ * Promises 19 to 24: cuts, lies, costs, finds, and the latitudes that fit; CutFindBoundariesTest
+ * has their ends.
+ */
 public final class CutsFindsTest {
     private static final Check CHECK = new Check("CutsFindsTest");
 
     public static void main(String[] args) {
         cuts();
-        wrongCuts();
         finds();
         fittings();
         CHECK.end();
@@ -49,39 +51,13 @@ public final class CutsFindsTest {
         cut(yard, 1, 9, 1, 815);
     }
 
-    private static void wrongCuts() {
-        GnomonYard yard = yard();
-        int[][] wrong = {{0, 0}, {24, 0}, {-1, 0}, {12, 51}, {12, -51}, {1, 51}};
-        for (int[] w : wrong) {
-            CHECK.outOfRange("cut(0, " + w[0] + ", " + w[1] + ")", () -> yard.cut(0, w[0], w[1]));
-        }
-        for (int dial : new int[] {-1, 2, Integer.MAX_VALUE}) {
-            CHECK.notThere("cut of no DIAL", () -> yard.cut(dial, 12, 0));
-            CHECK.notThere("cut of no DIAL, slip 51", () -> yard.cut(dial, 0, 51));
-            CHECK.notThere("lies of no DIAL", () -> yard.lies(dial));
-        }
-        CHECK.due(0, "lies(0) after refusals", () -> yard.lies(0));
-        CHECK.due(0, "cost() after refusals", yard::cost);
-        cut(yard, 0, 12, 1, 395);
-        CHECK.outOfRange("cut again, slip 51", () -> yard.cut(0, 12, 51));
-    }
-
     private static void finds() {
         GnomonYard yard = new GnomonYard();
-        int[][] wrong = {{-1, 0, 0, 0}, {360, 0, 0, 0}, {0, -1, 0, 0}, {0, 360, 0, 0},
-            {0, 0, -10000, 0}, {0, 0, 10000, 0}, {0, 0, 0, -10000}, {0, 0, 0, 10000}};
-        for (int[] w : wrong) {
-            CHECK.outOfRange("find(" + w[0] + ", " + w[1] + ", " + w[2] + ", " + w[3] + ")",
-                    () -> yard.find(w[0], w[1], w[2], w[3]));
-        }
-        CHECK.due(133, "fits after refusals", () -> yard.fits(0, 0, 1, 0));
         for (int round = 0; round < 2; round++) {
             for (int i = 1; i <= 6; i++) {
                 int sign = i % 2 == 0 ? 1 : -1;
                 CHECK.due(i, "FIND " + i, () -> yard.find(359, 359, sign * 9999, -sign * 9999));
             }
-            CHECK.notNow("a seventh FIND", () -> yard.find(0, 0, 0, 0));
-            CHECK.outOfRange("a seventh FIND on day 360", () -> yard.find(360, 0, 0, 0));
             CHECK.due(0, "fits with FINDS at night", () -> yard.fits(0, 0, 1, 0));
             CHECK.due(6, "forget", yard::forget);
             CHECK.due(0, "forget again", yard::forget);
@@ -122,11 +98,5 @@ public final class CutsFindsTest {
         yard.find(90, 180, 0, 0);
         fits(yard, 0, 0, 1, 44, 23, 66);
         fits(yard, 90, 0, 500, 0);
-        int[][] wrong = {{-1, 0, 1, 0}, {91, 0, 1, 0}, {0, -181, 1, 0}, {0, 181, 1, 0},
-            {0, 0, 0, 0}, {0, 0, 501, 0}, {0, 0, 1, -1}, {0, 0, 1, 3}, {90, 0, 501, 1}};
-        for (int[] w : wrong) {
-            CHECK.outOfRange("fits(" + w[0] + ", " + w[1] + ", " + w[2] + ", " + w[3] + ")",
-                    () -> yard.fits(w[0], w[1], w[2], w[3]));
-        }
     }
 }

@@ -1,9 +1,8 @@
-/** Promises 1 and 5 to 9: a new object, places, light, hours, summer. */
+/** Promises 5 to 9: places, light, hours, summer; PlaceBoundariesTest has their ends. */
 public final class PlacesTest {
     private static final Check CHECK = new Check("PlacesTest");
 
     public static void main(String[] args) {
-        newObject();
         places();
         light();
         hours();
@@ -11,35 +10,14 @@ public final class PlacesTest {
         CHECK.end();
     }
 
-    private static void newObject() {
-        GnomonYard yard = new GnomonYard();
-        CHECK.notThere("light without a PLACE", () -> yard.light(0, 0, 0));
-        CHECK.notThere("dial without a PLACE", () -> yard.dial(0, 0, 0, 1));
-        CHECK.notThere("lies without a DIAL", () -> yard.lies(0));
-        CHECK.due(0, "cost of a new object", yard::cost);
-        CHECK.due(0, "forget of a new object", yard::forget);
-        CHECK.due(133, "fits without FINDS", () -> yard.fits(0, 0, 1, 0));
-        CHECK.due(0, "the first PLACE", () -> yard.place(0, 0));
-        CHECK.due(712, "a clock without SUMMER on day 0", () -> yard.hour(0, 0, 180, 3));
-        CHECK.due(711, "a clock without SUMMER on day 359", () -> yard.hour(0, 359, 180, 3));
-        CHECK.due(-1, "NONE", () -> GnomonYard.NONE);
-    }
-
     private static void places() {
         GnomonYard yard = new GnomonYard();
-        int[][] wrong = {{67, 0}, {-67, 0}, {0, 721}, {0, -721}, {Integer.MIN_VALUE, 0}};
-        for (int[] w : wrong) {
-            CHECK.outOfRange("place(" + w[0] + ", " + w[1] + ")", () -> yard.place(w[0], w[1]));
-        }
         int[][] right = {{66, 720}, {-66, -720}, {0, 0}, {0, 0}, {1, 1}, {2, 2}, {3, 3}, {4, 4}};
         for (int i = 0; i < right.length; i++) {
             int[] r = right[i];
             CHECK.due(i, "place(" + r[0] + ", " + r[1] + ")", () -> yard.place(r[0], r[1]));
         }
-        CHECK.notNow("a ninth PLACE", () -> yard.place(0, 0));
-        CHECK.outOfRange("a ninth PLACE out of its range", () -> yard.place(67, 0));
         CHECK.due(708, "the eighth PLACE's clock", () -> yard.hour(7, 0, 180, 3));
-        CHECK.notThere("the ninth PLACE", () -> yard.light(8, 0, 0));
     }
 
     private static void lightOf(GnomonYard yard, int place, int day, int rise, int set, int ticks) {
@@ -63,18 +41,6 @@ public final class PlacesTest {
         lightOf(yard, 2, 0, 91, 270, 179);
         lightOf(yard, 3, 30, 84, 277, 193);
         lightOf(yard, 4, 200, 99, 262, 163);
-        for (int place : new int[] {-1, 5, Integer.MAX_VALUE}) {
-            CHECK.notThere("light of no PLACE", () -> yard.light(place, 0, 0));
-            CHECK.notThere("light of no PLACE, day 360", () -> yard.light(place, 360, 3));
-            CHECK.notThere("lightAnew of no PLACE", () -> yard.lightAnew(place, 0));
-            CHECK.notThere("lightAnew of no PLACE, day -1", () -> yard.lightAnew(place, -1));
-        }
-        int[][] wrong = {{-1, 0}, {360, 0}, {0, -1}, {0, 3}};
-        for (int[] w : wrong) {
-            CHECK.outOfRange("light(0, " + w[0] + ", " + w[1], () -> yard.light(0, w[0], w[1]));
-        }
-        CHECK.outOfRange("lightAnew(0, -1)", () -> yard.lightAnew(0, -1));
-        CHECK.outOfRange("lightAnew(0, 360)", () -> yard.lightAnew(0, 360));
     }
 
     private static void hoursOf(GnomonYard yard, int place, int day, int tick, int... wants) {
@@ -104,42 +70,25 @@ public final class PlacesTest {
         hoursOf(yard, 3, 133, 200, 7, 130, 269, 801);
         yard.place(-66, 0);
         hoursOf(yard, 4, 0, 255, 10);
-        CHECK.notThere("hour(5, ..)", () -> yard.hour(5, 0, 0, 0));
-        CHECK.notThere("hour(-1, ..) out of range", () -> yard.hour(-1, 360, 360, 4));
-        int[][] wrong = {{-1, 0, 0}, {360, 0, 0}, {0, -1, 0}, {0, 360, 0}, {0, 0, -1}, {0, 0, 4}};
-        for (int[] w : wrong) {
-            CHECK.outOfRange("hour(0, " + w[0] + ", " + w[1] + ", " + w[2] + ")",
-                    () -> yard.hour(0, w[0], w[1], w[2]));
-        }
-    }
-
-    private static Number told(GnomonYard yard, int from, int to) {
-        yard.summer(from, to);
-        return 0;
     }
 
     /** On day 90 it is 2 minutes early, on day 45 3 minutes late, on day 0 8 and on 359 9 early. */
     private static void summer() {
         GnomonYard yard = new GnomonYard();
         yard.place(51, 0);
-        CHECK.due(0, "summer(45, 90)", () -> told(yard, 45, 90));
+        CHECK.due(0, "summer(45, 90)", () -> Yards.summer(yard, 45, 90));
         CHECK.due(783, "the first day of SUMMER", () -> yard.hour(0, 45, 180, 3));
         CHECK.due(778, "the last day of SUMMER", () -> yard.hour(0, 90, 180, 3));
         CHECK.due(720 + yard.day(44, 1), "the day ahead of it", () -> yard.hour(0, 44, 180, 3));
         CHECK.due(720 + yard.day(91, 1), "the day behind it", () -> yard.hour(0, 91, 180, 3));
         CHECK.due(58, "past midnight", () -> yard.hour(0, 90, 0, 3));
-        int[][] wrong = {{-1, 0}, {360, 360}, {360, -1}, {-1, -1}, {0, -2}, {0, 360}, {100, 99}};
-        for (int[] w : wrong) {
-            CHECK.outOfRange("summer(" + w[0] + ", " + w[1] + ")", () -> told(yard, w[0], w[1]));
-        }
-        CHECK.due(783, "SUMMER after a refusal", () -> yard.hour(0, 45, 180, 3));
-        CHECK.due(0, "summer(90, 90)", () -> told(yard, 90, 90));
+        CHECK.due(0, "summer(90, 90)", () -> Yards.summer(yard, 90, 90));
         CHECK.due(723, "no longer SUMMER", () -> yard.hour(0, 45, 180, 3));
         CHECK.due(778, "a SUMMER of one day", () -> yard.hour(0, 90, 180, 3));
-        CHECK.due(0, "summer(359, NONE)", () -> told(yard, 359, GnomonYard.NONE));
+        CHECK.due(0, "summer(359, NONE)", () -> Yards.summer(yard, 359, GnomonYard.NONE));
         CHECK.due(718, "no SUMMER on day 90", () -> yard.hour(0, 90, 180, 3));
         CHECK.due(711, "no SUMMER on day 359", () -> yard.hour(0, 359, 180, 3));
-        CHECK.due(0, "summer(0, 359)", () -> told(yard, 0, 359));
+        CHECK.due(0, "summer(0, 359)", () -> Yards.summer(yard, 0, 359));
         CHECK.due(772, "SUMMER on day 0", () -> yard.hour(0, 0, 180, 3));
         CHECK.due(771, "SUMMER on day 359", () -> yard.hour(0, 359, 180, 3));
     }

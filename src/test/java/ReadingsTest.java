@@ -1,4 +1,7 @@
-/** Promises 15 to 18: points read, what dials tell, the worst of a day, the best tilt. */
+/**
+ * Promises 15 to 18: points read, what dials tell, the worst of a day, the best tilt;
+ * ReadingBoundariesTest has their ends.
+ */
 public final class ReadingsTest {
     private static final Check CHECK = new Check("ReadingsTest");
 
@@ -7,7 +10,6 @@ public final class ReadingsTest {
         tellings();
         worsts();
         bests();
-        wrongInputs();
         CHECK.end();
     }
 
@@ -131,35 +133,5 @@ public final class ReadingsTest {
         best(yard, 3, 4, 0, 90);
         CHECK.due(0, "best moves no DIAL", () -> yard.stand(0, 0, 40, 20));
         tells(yard, 0, 90, 150, 150);
-    }
-
-    private static void wrongInputs() {
-        GnomonYard yard = yard();
-        for (int dial : new int[] {-1, 3, 10, Integer.MIN_VALUE}) {
-            CHECK.notThere("read of no DIAL", () -> yard.read(dial, 10000, 0, 0));
-            CHECK.notThere("tells of no DIAL", () -> yard.tells(dial, 360, 0));
-            CHECK.notThere("worst of no DIAL", () -> yard.worst(dial, 360, 0));
-            CHECK.notThere("best of no DIAL", () -> yard.best(dial, 0, 181));
-        }
-        CHECK.notThere("best at no PLACE", () -> yard.best(0, 5, 0));
-        CHECK.notThere("best at PLACE -1, facing 181", () -> yard.best(0, -1, 181));
-        CHECK.outOfRange("best with a facing of 181", () -> yard.best(0, 0, 181));
-        CHECK.outOfRange("best with a facing of -181", () -> yard.best(0, 0, -181));
-        CHECK.due(yard.best(0, 0, 180), "best with a facing of -180", () -> yard.best(0, 0, -180));
-        int[][] reads = {{-10000, 0, 0}, {10000, 0, 0}, {0, -10000, 0}, {0, 10000, 0}, {0, 0, -1},
-            {0, 0, 360}};
-        for (int[] w : reads) {
-            CHECK.outOfRange("read(0, " + w[0] + ", " + w[1] + ", " + w[2] + ")",
-                    () -> yard.read(0, w[0], w[1], w[2]));
-        }
-        int[][] pairs = {{-1, 0}, {360, 0}, {0, -1}};
-        for (int[] w : pairs) {
-            CHECK.outOfRange("tells(0, " + w[0] + ", " + w[1] + ")",
-                    () -> yard.tells(0, w[0], w[1]));
-            CHECK.outOfRange("worst(0, " + w[0] + ", " + w[1] + ")",
-                    () -> yard.worst(0, w[0], w[1]));
-        }
-        CHECK.outOfRange("tells(0, 0, 360)", () -> yard.tells(0, 0, 360));
-        CHECK.outOfRange("worst(0, 0, 2)", () -> yard.worst(0, 0, 2));
     }
 }
