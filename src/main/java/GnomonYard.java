@@ -39,6 +39,9 @@ public final class GnomonYard {
     private static final int[] DAYS_OF_TRIAL = {0, 90, 270};
     private static final int ERROR_OF_SILENCE = 180;
 
+    // Above all distances between points, and above all that a trial's errors are together.
+    private static final int MORE_THAN_ANY = 1000000;
+
     private final Place[] places = new Place[MOST_PLACES];
     private int placeCount;
     private final Dial[] dials = new Dial[MOST_DIALS];
@@ -256,7 +259,7 @@ public final class GnomonYard {
         Place where = placeAt(place);
         refuseUnless(isFacing(facing));
         drawTrialTraces(asked.made);
-        int least = Integer.MAX_VALUE;
+        int least = MORE_THAN_ANY;
         int bestTilt = 0;
         for (int tilt = 0; tilt <= LARGEST_TILT; tilt++) {
             trial.set(where.latitude, tilt, facing, asked.made.rod);
@@ -406,7 +409,8 @@ public final class GnomonYard {
     private static int arcOf(int angle) {
         int m = angle * (180 - angle);
         int divisor = 40500 - m;
-        return divisor > 0 ? Math.floorDiv(4000 * m, divisor) : 0;
+        // From 0 to 180 nothing here is below 0, so that cutting rounds down, too.
+        return divisor > 0 ? 4000 * m / divisor : 0;
     }
 
     private static int sineOf(int angle) {
@@ -419,7 +423,7 @@ public final class GnomonYard {
     }
 
     private static int slantOf(int day) {
-        // The one quotient that is cut, not rounded down.
+        // The one quotient of which it is told that it is cut, also below 0.
         return 23 * sineOf(day) / 1000;
     }
 
@@ -676,7 +680,7 @@ public final class GnomonYard {
 
         /** The first tick of those whose shadow is least far from the point. */
         int nearest(int x, int y) {
-            int least = Integer.MAX_VALUE;
+            int least = MORE_THAN_ANY;
             int found = NONE;
             for (int i = 0; i < count && i < TICKS; i++) {
                 int distance = Math.abs(xs[i] - x) + Math.abs(ys[i] - y);
